@@ -818,8 +818,9 @@ public final class TurnedBoards {
                 moveOldestToEnd();
                 size = states.length - 1;
             }
-            if (size >= 0 && size < states.length && states[size] != null) {
-                states[size].copyFrom(board);
+            Board state = size >= 0 && size < states.length ? states[size] : null;
+            if (state != null) {
+                state.copyFrom(board);
                 size++;
             }
         }

@@ -260,6 +260,9 @@ public final class PlacesTest {
         board.paint(7);
         Checks.due("15: coats", board.count(6), 5);
         Checks.due("15: places with coats", board.count(7), 2);
+        board.paint(0);
+        Checks.due("15: coats with those of the first place", board.count(6), 6);
+        Checks.due("15: places with coats, the first, too", board.count(7), 3);
         board.gust(99);
         Checks.due("15: turned", board.count(2), 1);
         Checks.due("15: stiffness", board.count(3), 19);
@@ -302,5 +305,21 @@ public final class PlacesTest {
         board.sign(0, 3);
         Checks.due("18: not whole", board.quality(), Float.floatToIntBits(-10f / 6f));
         Checks.due("18: changes nothing", board.count(8), 4);
+        Checks.read(board, "baa/acb");
+        board.sign(0, 28675);
+        board.sign(1, 1);
+        Checks.due("18: 1 + 3, 1 - 3, 3 + 3", board.quality(), Float.floatToIntBits(8f / 6f));
+        board.sign(2, 1);
+        Checks.due("18: 1 + 3, 1 - 3, 1 + 3", board.quality(), Float.floatToIntBits(1f));
+        board.sign(2, 511);
+        Checks.due("18: 1 + 3, 1 - 3, -3 + 3", board.quality(), Float.floatToIntBits(2f / 6f));
+        Checks.read(board, "bbbbbbbb/bbbbbbbb");
+        Checks.due("18: all below 0", board.quality(), Float.floatToIntBits(-3f));
+        for (int place = 0; place < 8; place++) {
+            board.sign(place, 28675);
+        }
+        Checks.due("18: all above 0", board.quality(), Float.floatToIntBits(2f));
+        board.sign(5, 0);
+        Checks.due("18: sixteenths", board.quality(), Float.floatToIntBits(22f / 16f));
     }
 }
