@@ -7,6 +7,8 @@ final class Checks {
 
     private static int checked = 0;
     private static int wrong = 0;
+    private static String about = "";
+    private static int checkedBefore = 0;
 
     private Checks() {
     }
@@ -15,8 +17,19 @@ final class Checks {
         checked++;
         if (got != want) {
             wrong++;
-            System.out.println(what + ": answered " + got + ", due is " + want);
+            System.out.println(about + what + ": answered " + got + ", due is " + want);
         }
+    }
+
+    /** Tells what the next checks are about. */
+    static void about(String what) {
+        about = what + ": ";
+        checkedBefore = checked;
+    }
+
+    static void endAbout() {
+        due("checks at all", checked > checkedBefore ? 1 : 0, 1);
+        about = "";
     }
 
     static void end(String name) {
@@ -47,6 +60,20 @@ final class Checks {
         for (int letter = 0; letter < signs.length; letter++) {
             board.letter(letter, signs[letter]);
         }
+        return board;
+    }
+
+    /** A board with the words of the text, and the letters 0, 1, .. drawn as these signs. */
+    static TurnedBoards hung(String text, int... signs) {
+        TurnedBoards board = drawn(signs);
+        due("words " + text, read(board, text), text.indexOf('/'));
+        return board;
+    }
+
+    /** A board with the text typed, and the letters 0, 1, .. drawn as these signs. */
+    static TurnedBoards typed(String text, int... signs) {
+        TurnedBoards board = drawn(signs);
+        type(board, text);
         return board;
     }
 
