@@ -296,7 +296,7 @@ public final class ChangesBoundsTest {
 
     private static TurnedBoards boardWithoutHistory() {
         TurnedBoards board = board();
-        while (board.count(8) > 0) {
+        for (int step = 0; step < 4; step++) {
             board.undo();
         }
         return board;

@@ -126,18 +126,28 @@ public final class ChangingCallsBoundsTest {
         Checks.due("the other place has none", board.placeOf(1, 1), 0);
     }
 
+    @Sentence("place: number of the place")
+    static void promise4Place() {
+        for (int places = 1; places <= 8; places++) {
+            String word = "aaaaaaaa".substring(0, places);
+            TurnedBoards board = Checks.hung(word + "/" + word, 2 * ROW);
+            Checks.due("first", board.compose(0), board.composed(0, 0, 0));
+            Checks.due("last", board.compose(places - 1), board.composed(0, 0, 0));
+            Checks.due("below", board.compose(-1), Checks.INVALID);
+            Checks.due("above", board.compose(places), Checks.INVALID);
+            for (int far : FAR_OUT) {
+                Checks.due("far out", board.compose(far), Checks.INVALID);
+            }
+        }
+        Checks.due("no places", new TurnedBoards().compose(0), Checks.INVALID);
+    }
+
     @Sentence("Returns the sign then; INVALID_ARGUMENT; NOT_POSSIBLE if there is no composed sign.")
     static void promise4Compose() {
         TurnedBoards board = Checks.hung("ab/ab", ROW, FIFTH_ROW);
         Checks.due("first", board.compose(0), ROW);
         Checks.due("last", board.compose(1), FIFTH_ROW);
         Checks.due("it stands there", board.placeOf(1, 0), FIFTH_ROW);
-        Checks.due("below", board.compose(-1), Checks.INVALID);
-        Checks.due("above", board.compose(2), Checks.INVALID);
-        for (int far : FAR_OUT) {
-            Checks.due("far out", board.compose(far), Checks.INVALID);
-        }
-        Checks.due("no places", new TurnedBoards().compose(0), Checks.INVALID);
         board = Checks.hung("ab/aa", 0, 32767);
         Checks.due("a blank sign is one, too", board.compose(0), 0);
         Checks.due("none", board.compose(1), Checks.NOT_POSSIBLE);
@@ -197,10 +207,21 @@ public final class ChangingCallsBoundsTest {
         Checks.due("it has 9 at once", board.paint(0), Checks.LIMIT);
         board.pass(1);
         Checks.due("it has 8", board.paint(0), 9);
-        Checks.due("below", board.paint(-1), Checks.INVALID);
-        Checks.due("above", board.paint(2), Checks.INVALID);
-        for (int far : FAR_OUT) {
-            Checks.due("far out", board.paint(far), Checks.INVALID);
+    }
+
+    @Sentence("place: number of the place")
+    static void promise6Place() {
+        for (int places = 1; places <= 8; places++) {
+            String word = "aaaaaaaa".substring(0, places);
+            TurnedBoards board = Checks.hung(word + "/" + word, ROW);
+            Checks.due("first", board.paint(0), 1);
+            Checks.due("last", board.paint(places - 1), places == 1 ? 2 : 1);
+            Checks.due("below", board.paint(-1), Checks.INVALID);
+            Checks.due("above", board.paint(places), Checks.INVALID);
+            for (int far : FAR_OUT) {
+                Checks.due("far out", board.paint(far), Checks.INVALID);
+            }
+            Checks.due("no other coat", board.count(6), 2);
         }
         Checks.due("no places", new TurnedBoards().paint(0), Checks.INVALID);
     }
@@ -243,8 +264,22 @@ public final class ChangingCallsBoundsTest {
             Checks.due("far out", board.oil(far), Checks.INVALID);
         }
         Checks.due("as before", board.count(3), 50);
-        board.gust(50);
-        Checks.due("what it was after a gust", board.oil(50), 49);
+    }
+
+    @Sentence("Returns what it was; INVALID_ARGUMENT if stiffness is out of range.")
+    static void promise8Returns() {
+        TurnedBoards board = new TurnedBoards();
+        Checks.due("what it was at first", board.oil(2), 20);
+        board.gust(2);
+        Checks.due("after a gust", board.oil(2), 1);
+        board.gust(2);
+        board.gust(2);
+        Checks.due("after two gusts, not below 1", board.oil(99), 1);
+        Checks.due("an error", board.oil(100), Checks.INVALID);
+        Checks.due("after an error", board.oil(99), 99);
+        board.undo();
+        board.undo();
+        Checks.due("after undo", board.oil(5), 1);
     }
 
     @Sentence("days: 1 to 20")
@@ -325,5 +360,19 @@ public final class ChangingCallsBoundsTest {
         }
         Checks.due("0", board.count(20), 9);
         Checks.due("1", board.count(21), 9);
+    }
+
+    @Sentence("Returns what it was; INVALID_ARGUMENT if an argument is out of range.")
+    static void promise10Returns() {
+        TurnedBoards board = new TurnedBoards();
+        Checks.due("0 at first", board.set(0, 9), 4);
+        Checks.due("1 at first", board.set(1, 0), 3);
+        Checks.due("an error", board.set(0, 0), Checks.INVALID);
+        Checks.due("after an error", board.set(0, 1), 9);
+        Checks.due("an error", board.set(1, 10), Checks.INVALID);
+        Checks.due("after an error", board.set(1, 9), 0);
+        board.undo();
+        Checks.due("after undo", board.set(1, 9), 0);
+        Checks.due("the other one stays", board.set(0, 2), 1);
     }
 }

@@ -297,10 +297,13 @@ public final class RulesBoundsTest {
         fault("ab/a", 4, 1);
         fault("aaaaaaaa/", 9, 1);
         fault("aaaaaaaa/aaaaaaa", 16, 1);
-        TurnedBoards board = Checks.typed("aa/aa", 1);
+        TurnedBoards board = Checks.typed("a/a", 1);
         board.clearText();
+        Checks.due("though another one was there", board.fault(0), 0);
         board.type('a');
-        Checks.due("though a longer one was there", board.fault(0), 1);
+        Checks.due("though the slash of another one was there", board.fault(0), 1);
+        board.type('/');
+        Checks.due("though the letter of another one was there", board.fault(0), 2);
     }
 
     @Sentence("2: the ninth letter of the first word.")

@@ -124,6 +124,38 @@ public final class TellingCallsBoundsTest {
         }
     }
 
+    @Sentence("0: its sign; 1: its coats; 2: the letter as which it is read upright; 3: that as which it is read turned")
+    static void promise12SignCoatsRead() {
+        TurnedBoards board = Checks.hung("aaaaaaaa/aaaaaaaa", ROW, FIFTH_ROW, 0);
+        board.set(0, 9);
+        for (int place = 0; place < 8; place += 7) {
+            int[][] dues = {{ROW, 9, 0, 1}, {FIFTH_ROW, 9, 1, 0}, {0, 9, 2, 2}, {32767, 9, 0, 0}};
+            for (int[] due : dues) {
+                board.sign(place, due[0]);
+                for (int what = 0; what < 4; what++) {
+                    Checks.due("place " + place + ", " + what, board.placeOf(place, what), due[what]);
+                }
+            }
+        }
+        board.gust(99);
+        board.sign(0, FIFTH_ROW);
+        Checks.due("upright, though it hangs turned", board.placeOf(0, 2), 1);
+        Checks.due("turned, as it hangs", board.placeOf(0, 3), 0);
+    }
+
+    @Sentence("6: the margin of its sign upright for the letter wanted upright")
+    static void promise12MarginUpright() {
+        TurnedBoards board = Checks.hung("aaaaaaab/baaaaaab", 0, 32767);
+        for (int place = 0; place < 8; place += 7) {
+            for (int dark = 0; dark <= 15; dark++) {
+                board.sign(place, (1 << dark) - 1);
+                int due = place == 0 ? 15 - 2 * dark : 2 * dark - 15;
+                Checks.due("place " + place + ", dark " + dark, board.placeOf(place, 6), due);
+            }
+        }
+        Checks.due("turned, the last letter is of the first place", board.placeOf(0, 7), 15);
+    }
+
     @Sentence("4: the letter wanted upright; 5: that wanted turned")
     static void promise12Wanted() {
         TurnedBoards board = Checks.hung("abcdefgh/ijabcdef", 1, 2, 4, 8, 16, 32, 64, 128, 256, 512);
@@ -171,6 +203,19 @@ public final class TellingCallsBoundsTest {
         board.pass(1);
         Checks.due("no coats again", board.placeOf(0, 2), Checks.NOT_FOUND);
         Checks.due("no coats again, turned", board.placeOf(0, 3), Checks.NOT_FOUND);
+    }
+
+    @Sentence("reader: 0 or 1")
+    static void promise13Reader() {
+        TurnedBoards board = Checks.hung("a/a", ROW, FIFTH_ROW);
+        board.sign(0, ROW);
+        Checks.due("lowest", board.reads(0, 0), 0);
+        Checks.due("highest", board.reads(1, 0), 1);
+        Checks.due("below", board.reads(-1, 0), Checks.INVALID);
+        Checks.due("above", board.reads(2, 0), Checks.INVALID);
+        for (int far : FAR_OUT) {
+            Checks.due("far out", board.reads(far, 0), Checks.INVALID);
+        }
     }
 
     @Sentence("index: 0 for the first letter from the left, and so on")
@@ -224,6 +269,20 @@ public final class TellingCallsBoundsTest {
             }
         }
         Checks.due("no places", new TurnedBoards().reads(0, 0), Checks.NOT_FOUND);
+    }
+
+    @Sentence("word: 0 or 1")
+    static void promise14Word() {
+        TurnedBoards board = Checks.hung("a/b", ROW, FIFTH_ROW);
+        Checks.due("lowest", board.word(0, 10), 0);
+        Checks.due("highest", board.word(1, 10), 1);
+        for (int what : new int[] {0, 1, 2, 10}) {
+            Checks.due("below", board.word(-1, what), Checks.INVALID);
+            Checks.due("above", board.word(2, what), Checks.INVALID);
+            for (int far : FAR_OUT) {
+                Checks.due("far out", board.word(far, what), Checks.INVALID);
+            }
+        }
     }
 
     @Sentence("0: 1 if the board says it, this way round (all letters are read as wanted; without places, too), otherwise 0")
@@ -312,13 +371,8 @@ public final class TellingCallsBoundsTest {
                 Checks.due("below 0", board.word(word, -1), Checks.INVALID);
             }
         }
-        for (int what : new int[] {0, 1, 2, 10, 17}) {
-            Checks.due("word below", board.word(-1, what), Checks.INVALID);
-            Checks.due("word above", board.word(2, what), Checks.INVALID);
-        }
         for (int far : FAR_OUT) {
             Checks.due("what far out", board.word(0, far), Checks.INVALID);
-            Checks.due("word far out", board.word(far, 0), Checks.INVALID);
         }
     }
 
@@ -378,19 +432,63 @@ public final class TellingCallsBoundsTest {
         Checks.due("the highest letter alone, blank", board.count(1), 512);
     }
 
+    @Sentence("20, 21: the settings 0, 1")
+    static void promise15Settings() {
+        TurnedBoards board = new TurnedBoards();
+        int[][] settings = {{4, 3}, {1, 0}, {9, 9}};
+        for (int[] values : settings) {
+            board.set(0, values[0]);
+            board.set(1, values[1]);
+            Checks.due("setting 0", board.count(20), values[0]);
+            Checks.due("setting 1", board.count(21), values[1]);
+        }
+    }
+
+    @Sentence("one: the letter upright, 0 to 9")
+    static void promise16One() {
+        TurnedBoards board = Checks.drawn(1, 2, 4, 8, 16, 32, 64, 128, 256, 512);
+        Checks.due("lowest", board.composed(0, 9, 2), 2);
+        Checks.due("highest, turned as it is", board.composed(9, 5, 2), 0);
+        Checks.due("below", board.composed(-1, 0, 2), Checks.INVALID);
+        Checks.due("above", board.composed(10, 0, 2), Checks.INVALID);
+        for (int far : FAR_OUT) {
+            Checks.due("far out", board.composed(far, 0, 2), Checks.INVALID);
+        }
+        board = Checks.drawn(ROW, FIFTH_ROW, 3);
+        Checks.due("upright as it is drawn", board.composed(0, 1, 0), ROW);
+    }
+
+    @Sentence("other: the letter turned, 0 to 9")
+    static void promise16Other() {
+        TurnedBoards board = Checks.drawn(1, 2, 4, 8, 16, 32, 64, 128, 256, 512);
+        Checks.due("lowest", board.composed(9, 0, 2), 2);
+        Checks.due("highest, turned as the letter", board.composed(5, 9, 2), 0);
+        Checks.due("below", board.composed(0, -1, 2), Checks.INVALID);
+        Checks.due("above", board.composed(0, 10, 2), Checks.INVALID);
+        for (int far : FAR_OUT) {
+            Checks.due("far out", board.composed(0, far, 2), Checks.INVALID);
+        }
+        board = Checks.drawn(ROW, FIFTH_ROW, 3);
+        Checks.due("turned it is the other sign", board.composed(1, 0, 0), FIFTH_ROW);
+    }
+
+    @Sentence("0: the sign")
+    static void promise16Sign() {
+        Checks.due("lowest", Checks.drawn(0).composed(0, 0, 0), 0);
+        Checks.due("highest", Checks.drawn(32767).composed(0, 0, 0), 32767);
+        Checks.due("the lowest of many", Checks.drawn(127).composed(0, 0, 0), 0);
+        Checks.due("none", Checks.drawn(0, 32767).composed(0, 1, 0), Checks.NOT_FOUND);
+    }
+
     @Sentence("INVALID_ARGUMENT if an argument is out of range; NOT_POSSIBLE if one of them is not drawn; NOT_FOUND for 0 and 1 "
         + "if there is none.")
     static void promise16Errors() {
         TurnedBoards board = Checks.drawn(0, 32767);
         board.letter(9, 127);
         Checks.due("highest letter", board.composed(9, 9, 2), 14);
-        int[][] outside = {{-1, 0, 0}, {10, 0, 0}, {0, -1, 0}, {0, 10, 0}, {0, 0, -1}, {0, 0, 3}};
-        for (int[] call : outside) {
-            Checks.due("out of range", board.composed(call[0], call[1], call[2]), Checks.INVALID);
-        }
+        Checks.due("what below", board.composed(0, 0, -1), Checks.INVALID);
+        Checks.due("what above", board.composed(0, 0, 3), Checks.INVALID);
         for (int far : FAR_OUT) {
-            Checks.due("one far out", board.composed(far, 0, 0), Checks.INVALID);
-            Checks.due("other far out", board.composed(0, far, 0), Checks.INVALID);
             Checks.due("what far out", board.composed(0, 0, far), Checks.INVALID);
         }
         for (int what = 0; what < 3; what++) {
@@ -438,9 +536,38 @@ public final class TellingCallsBoundsTest {
         board = Checks.drawn(511, 0, 16384, 24576);
         Checks.due("of several the lowest", board.goesWith(1), 0);
         Checks.due("of several the lowest", board.goesWith(3), 0);
+        board = Checks.drawn(24576, 16385, 0);
+        Checks.due("the greatest lesser margin is 0", board.composed(0, 0, 1), 0);
+        Checks.due("the greatest lesser margin is 0", board.goesWith(0), 0);
         board = Checks.drawn(6, 73, 5, 128);
         Checks.due("margin before distance, the lowest", board.goesWith(0), 0);
         Checks.due("margin before distance, the lowest", board.goesWith(2), 0);
+    }
+
+    @Sentence("letter: the letter upright, 0 to 9")
+    static void promise17Letter() {
+        TurnedBoards board = Checks.drawn(16384, 8192, 4096, 2048, 1024, 512, 1, 2, 4, 8);
+        Checks.due("lowest", board.goesWith(0), 6);
+        Checks.due("highest", board.goesWith(9), 3);
+        Checks.due("below", board.goesWith(-1), Checks.INVALID);
+        Checks.due("above", board.goesWith(10), Checks.INVALID);
+        for (int far : FAR_OUT) {
+            Checks.due("far out", board.goesWith(far), Checks.INVALID);
+        }
+    }
+
+    /** A letter's own sign is composed with what it is read as when turned: there is always one. */
+    @Sentence("NOT_FOUND if there is no composed sign with any.")
+    static void promise17AlwaysOne() {
+        int[][] drawn = {{0}, {0, 32767}, {24576, 16385, 0}, {0, 1, 2, 4, 8, 16, 32, 64, 128, 256}, {1, 3, 7, 15, 31, 63, 127, 255, 511, 1023}};
+        for (int[] signs : drawn) {
+            TurnedBoards board = Checks.drawn(signs);
+            for (int letter = 0; letter < signs.length; letter++) {
+                int other = board.goesWith(letter);
+                Checks.due("a letter", other >= 0 && other < signs.length ? 1 : 0, 1);
+                Checks.due("a composed sign", board.composed(letter, other, 0) >= 0 ? 1 : 0, 1);
+            }
+        }
     }
 
     @Sentence("Returns the letter; INVALID_ARGUMENT if letter is out of range; NOT_POSSIBLE if it is not drawn")
@@ -450,11 +577,9 @@ public final class TellingCallsBoundsTest {
         for (int letter = 1; letter <= 9; letter++) {
             Checks.due("not drawn", board.goesWith(letter), Checks.NOT_POSSIBLE);
         }
-        Checks.due("below", board.goesWith(-1), Checks.INVALID);
-        Checks.due("above", board.goesWith(10), Checks.INVALID);
-        for (int far : FAR_OUT) {
-            Checks.due("far out", board.goesWith(far), Checks.INVALID);
-        }
+        Checks.due("out of range", board.goesWith(10), Checks.INVALID);
+        board.undo();
+        Checks.due("drawn no more", board.goesWith(0), Checks.NOT_POSSIBLE);
     }
 
     @Sentence("the sum over all places of both margins (those of placeOf() with 6 and 7; 0 for a letter that is not drawn), "
@@ -485,6 +610,29 @@ public final class TellingCallsBoundsTest {
         }
         Checks.due("the sum", sum, 14);
         Checks.due("not whole", board.quality(), Float.floatToIntBits(14f / 16f));
+    }
+
+    @Sentence("Returns the bits of how well the board is read, as a float")
+    static void promise18Bits() {
+        TurnedBoards board = Checks.hung("a/a", 0);
+        for (int dark = 0; dark <= 14; dark++) {
+            board.sign(0, (1 << dark) - 1);
+            Checks.due("one letter, dark " + dark, board.quality(), Float.floatToIntBits(15f - dark));
+        }
+        int[] from15To7 = {0x41700000, 0x41600000, 0x41500000, 0x41400000, 0x41300000, 0x41200000, 0x41100000, 0x41000000, 0x40e00000};
+        board = Checks.hung("aaaaaaaa/aaaaaaaa", 0);
+        for (int place = 0; place < 8; place++) {
+            Checks.due("eighths, " + place, board.quality(), Float.floatToIntBits(15f - place / 8f));
+            board.sign(place, 1);
+        }
+        for (int dark = 0; dark <= 8; dark++) {
+            for (int place = 0; place < 8; place++) {
+                board.sign(place, (1 << dark) - 1);
+            }
+            Checks.due("the bits as they are written, dark " + dark, board.quality(), from15To7[dark]);
+        }
+        board.letter(1, 32767);
+        Checks.due("the sign's bit", board.quality(), 0xbf800000);
     }
 
     @Sentence("Returns the bits; NOT_FOUND if there are no places.")

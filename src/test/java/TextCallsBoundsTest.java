@@ -159,11 +159,22 @@ public final class TextCallsBoundsTest {
         Checks.due("no change", board.count(8), 1);
     }
 
+    @Sentence("what: 0: its place; 1: its reason")
+    static void promise25PlaceAndReason() {
+        String[] texts = {"", "a/aa", "aaaaaaaaa", "b/a", "aaaaaaaa/aaaaaaab"};
+        int[][] faults = {{0, 1}, {3, 1}, {8, 2}, {0, 3}, {16, 3}};
+        for (int index = 0; index < texts.length; index++) {
+            TurnedBoards board = Checks.typed(texts[index], ROW);
+            Checks.due("place in " + texts[index], board.fault(0), faults[index][0]);
+            Checks.due("reason in " + texts[index], board.fault(1), faults[index][1]);
+            Checks.due("no third number", board.fault(2), Checks.INVALID);
+            Checks.due("the place once more", board.fault(0), faults[index][0]);
+        }
+    }
+
     @Sentence("Returns that; INVALID_ARGUMENT if what is out of range; NOT_FOUND if the text has no fault.")
-    static void promise25What() {
+    static void promise25Errors() {
         TurnedBoards board = Checks.typed("aj", ROW);
-        Checks.due("lowest what", board.fault(0), 2);
-        Checks.due("highest what", board.fault(1), 1);
         for (int time = 0; time < 2; time++) {
             Checks.due("below", board.fault(-1), Checks.INVALID);
             Checks.due("above", board.fault(2), Checks.INVALID);
