@@ -30,7 +30,7 @@ public final class ModelTest {
             call(0, letter, aSign(), 0);
         }
         while (calls < CALLS) {
-            if (random.nextInt(board.count(0) == 0 ? 3 : 40) == 0) {
+            if (random.nextInt(model.count(0) == 0 ? 3 : 40) == 0) {
                 typeWords();
             }
             int method = random.nextInt(25);
@@ -46,14 +46,14 @@ public final class ModelTest {
     }
 
     private int aPlace() {
-        return random.nextInt(8) == 0 ? argument() : random.nextInt(board.count(0) + 1);
+        return random.nextInt(8) == 0 ? argument() : random.nextInt(model.count(0) + 1);
     }
 
     /** A letter that is drawn, if there is one, but for a few. */
     private char aLetter() {
         int letter = random.nextInt(10);
         for (int step = 0; step < 10 && random.nextInt(100) > 0; step++) {
-            if ((board.count(1) >> letter & 1) == 1) {
+            if ((model.count(1) >> letter & 1) == 1) {
                 break;
             }
             letter = (letter + 1) % 10;
