@@ -24,8 +24,8 @@ public final class TurnedBoards {
     private static final int UPRIGHT = 0;
     private static final int TURNED = 1;
 
+    /** The number of the first setting; the other one is that of the cells. */
     private static final int PAINTED_COATS = 0;
-    private static final int FADING_CELLS = 1;
 
     private final Board now;
     private final Board snapshot;
@@ -154,7 +154,7 @@ public final class TurnedBoards {
         }
         history.push(now);
         int before = now.setting(what);
-        Rows.put(now.settings, what, value);
+        now.changeSetting(what, value);
         return before;
     }
 
@@ -521,7 +521,9 @@ public final class TurnedBoards {
         private final int[] drawn = new int[LETTERS];
 
         Letters() {
-            Rows.fill(drawn, NONE);
+            for (int letter = 0; letter < drawn.length; letter++) {
+                drawn[letter] = NONE;
+            }
         }
 
         int signFor(int letter) {
@@ -657,17 +659,13 @@ public final class TurnedBoards {
         private final int[] coats = new int[MOST_PLACES];
         private final int[] uprightWord = new int[MOST_PLACES];
         private final int[] turnedWord = new int[MOST_PLACES];
-        private final int[] settings = new int[2];
+        private int paintedCoats = 4;
+        private int fadingCells = 3;
         private int places = 0;
         private boolean turned = false;
         private int stiffness = 20;
         private int day = 0;
         private int turns = 0;
-
-        Board() {
-            Rows.put(settings, PAINTED_COATS, 4);
-            Rows.put(settings, FADING_CELLS, 3);
-        }
 
         void copyFrom(Board other) {
             if (other == null) {
@@ -678,7 +676,8 @@ public final class TurnedBoards {
             Rows.copy(other.coats, coats);
             Rows.copy(other.uprightWord, uprightWord);
             Rows.copy(other.turnedWord, turnedWord);
-            Rows.copy(other.settings, settings);
+            paintedCoats = other.paintedCoats;
+            fadingCells = other.fadingCells;
             places = other.places;
             turned = other.turned;
             stiffness = other.stiffness;
@@ -707,7 +706,15 @@ public final class TurnedBoards {
         }
 
         int setting(int what) {
-            return Rows.at(settings, what);
+            return what == PAINTED_COATS ? paintedCoats : fadingCells;
+        }
+
+        void changeSetting(int what, int value) {
+            if (what == PAINTED_COATS) {
+                paintedCoats = value;
+            } else {
+                fadingCells = value;
+            }
         }
 
         void coat(int place, int number) {
@@ -716,7 +723,7 @@ public final class TurnedBoards {
 
         void hang(int place, int sign) {
             Rows.put(signs, place, sign);
-            coat(place, setting(PAINTED_COATS));
+            coat(place, paintedCoats);
         }
 
         int way() {
@@ -786,7 +793,7 @@ public final class TurnedBoards {
         }
 
         boolean fades(int place) {
-            return coatsAt(place) > 0 && Signs.darkInUpperRows(signAt(place), way()) >= setting(FADING_CELLS);
+            return coatsAt(place) > 0 && Signs.darkInUpperRows(signAt(place), way()) >= fadingCells;
         }
 
         int fadeOneDay() {

@@ -26,6 +26,7 @@ public final class FaceTest {
         theConstants();
         theMethods();
         theFields();
+        theClassesInside();
         theSource();
         Checks.end("FaceTest");
     }
@@ -64,8 +65,22 @@ public final class FaceTest {
             holds(field + ": static ones are final", !Modifier.isStatic(field.getModifiers()) || Modifier.isFinal(field.getModifiers()));
         }
         Checks.due("fields that are not private", open, 4);
-        for (Class<?> inside : TurnedBoards.class.getDeclaredClasses()) {
+    }
+
+    private static void theClassesInside() {
+        Class<?>[] classes = TurnedBoards.class.getDeclaredClasses();
+        holds("at most 12 classes", classes.length < 12);
+        for (Class<?> inside : classes) {
             holds(inside + " is static and not public", Modifier.isStatic(inside.getModifiers()) && !Modifier.isPublic(inside.getModifiers()));
+            holds(inside + " has no classes inside", inside.getDeclaredClasses().length == 0);
+            holds(inside + " has at most 20 fields", inside.getDeclaredFields().length <= 20);
+            for (Field field : inside.getDeclaredFields()) {
+                holds(field + ": static ones are final", !Modifier.isStatic(field.getModifiers()) || Modifier.isFinal(field.getModifiers()));
+            }
+            for (Method method : inside.getDeclaredMethods()) {
+                holds(method + " does not bear the name of one of the face", !FACE.containsKey(method.getName()));
+                holds(method + " takes at most 7 arguments", method.getParameterCount() <= 7);
+            }
         }
     }
 
